@@ -60,7 +60,8 @@ public final class TakeLog {
     private static final int FALSE_START = 15;
     private static final int SLATE_RIGHT = 16;
 
-    private static final long[] SCRIPT_ENDS = {1L, 100000L, 10000000000L, 1000000000000000L};
+    // A command of a script is a group of five digits.
+    private static final long GROUP_END = 100000L;
 
     private final State now = new State();
     // What scripts, simulations and questions of what would be work on.
@@ -69,7 +70,7 @@ public final class TakeLog {
     private final Shelf slots = new Shelf(SLOTS);
     private final boolean[] saved = new boolean[SLOTS];
     private final Day text = new Day();
-    private final Line line = new Line();
+    private final Line shown = new Line();
     private int remembered;
     private int oldest;
 
@@ -133,8 +134,8 @@ public final class TakeLog {
         if (k < 0) {
             throw new IllegalArgumentException("the index is negative");
         }
-        line.write(now, i);
-        return line.signAt(k);
+        shown.write(now, i);
+        return shown.signAt(k);
     }
 
     public int setting(int what) throws IllegalArgumentException {
@@ -294,14 +295,13 @@ public final class TakeLog {
     public int bestShift() {
         int best = 0;
         int most = now.keptSounds(0);
-        // Nearest to 0 first, and the lower one of two: so only more sounds make a better shift.
-        for (int size = 1; size <= MOST_OFF; size++) {
-            for (int shift = -size; shift <= size; shift += 2 * size) {
-                int kept = now.keptSounds(shift);
-                if (kept > most) {
-                    most = kept;
-                    best = shift;
-                }
+        // -1, 1, -2, 2, ..: the one to be preferred comes first, so only more sounds make a better one.
+        for (int k = 2; k <= 2 * MOST_OFF + 1; k++) {
+            int shift = k % 2 == 0 ? -(k / 2) : k / 2;
+            int kept = now.keptSounds(shift);
+            if (kept > most) {
+                most = kept;
+                best = shift;
             }
         }
         return best;
@@ -345,13 +345,12 @@ public final class TakeLog {
         if (n < 1 || n > 3) {
             throw new IllegalArgumentException("the commands are not 1 to 3");
         }
-        if (script < 0 || script >= SCRIPT_ENDS[n]) {
+        if (script < 0 || withoutGroups(script, n) > 0) {
             throw new IllegalArgumentException("the script is negative or too long");
         }
         copy.copyFrom(now);
         for (int k = 0; k < n; k++) {
-            int group = (int) (script / SCRIPT_ENDS[n - 1 - k] % 100000L);
-            if (!succeeds(group)) {
+            if (!succeeds((int) (withoutGroups(script, n - 1 - k) % GROUP_END))) {
                 return k;
             }
         }
@@ -430,7 +429,7 @@ public final class TakeLog {
     private int obeyText() {
         int leftOut = 0;
         text.startReading();
-        while (text.hasMore() && text.readCommand()) {
+        for (int k = 0; k < Day.MOST && text.hasMore() && text.readCommand(); k++) {
             if (!obeyCommand()) {
                 leftOut++;
             }
@@ -467,6 +466,15 @@ public final class TakeLog {
                 now.setOff(text.number - 50);
                 return true;
         }
+    }
+
+    /** A script without some of its lowest groups. */
+    private static long withoutGroups(long script, int groups) {
+        long rest = script;
+        for (int k = 0; k < groups; k++) {
+            rest /= GROUP_END;
+        }
+        return rest;
     }
 
     /** Does a command of a script on the copy; false if it fails. */
@@ -987,7 +995,7 @@ public final class TakeLog {
             if (!startReading()) {
                 return at;
             }
-            while (hasMore()) {
+            for (int k = 0; k < MOST && hasMore(); k++) {
                 if (!readCommand()) {
                     return at;
                 }
@@ -1007,7 +1015,8 @@ public final class TakeLog {
 
         /** Reads a command; false if it is not one, and then at is the error position. */
         boolean readCommand() {
-            command = readSign(0, 255);
+            int start = at;
+            command = readSign('a', 'z');
             switch (command) {
                 case 'c':
                     return readSetup();
@@ -1026,7 +1035,7 @@ public final class TakeLog {
                 case 's':
                     return true;
                 default:
-                    at--;
+                    at = start;
                     return false;
             }
         }
@@ -1104,12 +1113,10 @@ public final class TakeLog {
         }
 
         private void addNumber(int number) {
-            int weight = 1;
-            while (weight <= number / 10) {
-                weight *= 10;
-            }
-            for (int w = weight; w > 0; w /= 10) {
-                add((char) ('0' + number / w % 10));
+            for (int weight = 1000000000; weight > 0; weight /= 10) {
+                if (weight == 1 || number >= weight) {
+                    add((char) ('0' + number / weight % 10));
+                }
             }
         }
 
