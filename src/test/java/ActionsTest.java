@@ -146,6 +146,7 @@ public final class ActionsTest {
         Check.due("falseStart again", log.falseStart(0, false), 1);
         Check.due("the present board stays", log.about(5), 5);
         TakeLog scenes = Check.loaded("Tb02B01t010");
+        Check.due("the first slate is wrong", scenes.about(12), 1);
         Check.due("fix of the scene", scenes.fix(0), 1);
         Check.take(scenes, 0, 1, 0, 1, 1, 0, 1);
     }

@@ -191,6 +191,8 @@ public final class FindingTest {
         }
         log.circle(3, true);
         Check.due("all letters are circled", log.scene(3, 4), 0);
+        log.circle(0, false);
+        Check.due("the letter A is not circled", log.scene(3, 4), 1);
         for (int bad : new int[] {-1, 5, Integer.MIN_VALUE, Integer.MAX_VALUE}) {
             Check.refuses(log, IllegalArgumentException.class, "scene what " + bad, () -> log.scene(3, bad));
         }

@@ -63,6 +63,10 @@ public final class NumbersTest {
         TakeLog other = Check.loaded("Tt020v80t020v45t020");
         Check.due("another sound than its own, and none", other.about(16), 2);
         Check.due("another sound than its own", other.synced(2), 1);
+        Check.due("one second is its own", Check.loaded("Tv59t010").about(16), 0);
+        Check.due("the last second is its own", Check.loaded("Tv41t010").about(16), 0);
+        Check.due("not one second more", Check.loaded("Tv60t010").about(16), 1);
+        Check.due("not one second less", Check.loaded("Tv40t010").about(16), 1);
         TakeLog silent = new TakeLog();
         silent.shoot(20, false);
         Check.due("no sound, and none given", silent.about(16), 0);

@@ -15,6 +15,7 @@ public final class ScriptTest {
         for (int bad : new int[] {0, 4, -1, Integer.MIN_VALUE, Integer.MAX_VALUE}) {
             Check.refuses(log, IllegalArgumentException.class, "runScript n " + bad, () -> log.runScript(bad, 50000L));
         }
+        Check.refuses(log, IllegalArgumentException.class, "runScript(0, 0)", () -> log.runScript(0, 0));
         long[] ends = {100000L, 10000000000L, 1000000000000000L};
         for (int n = 1; n <= 3; n++) {
             int commands = n;
@@ -82,7 +83,7 @@ public final class ScriptTest {
         succeed(log, true, 30000, 30001, 30300, 30301);
         succeed(log, false, 30400, 30401, 30002, 30010, 30011, 32400, 39901, 30009);
         succeed(log, true, 60001, 60101, 60201, 60300);
-        succeed(log, false, 60000, 60100, 60200, 60301, 60400, 60401, 60002, 60011, 60010, 69900);
+        succeed(log, false, 60000, 60100, 60200, 60301, 60400, 60401, 60002, 60302, 60310, 60011, 60010, 69900);
         succeed(log, true, 70001, 70002, 70099);
         succeed(log, false, 70000);
         succeed(log, true, 80000, 80102);
@@ -92,7 +93,10 @@ public final class ScriptTest {
         Check.due("no false start again", log.runScript(3, 30001_30000_70001L), -1);
         Check.due("sound", log.runScript(2, 11010_80404L), -1);
         Check.due("no sound", log.runScript(2, 10010_80404L), 1);
-        Check.due("a new sound roll", log.runScript(2, 20001_11010L), -1);
+        log.set(1, 60);
+        Check.due("no room for sound", log.runScript(2, 11040_80404L), 1);
+        Check.due("a new sound roll", log.runScript(3, 20001_11040_80404L), -1);
+        Check.due("a new camera roll is none", log.runScript(3, 20000_11040_80404L), 2);
     }
 
     private static void fullLogs() {
@@ -119,20 +123,32 @@ public final class ScriptTest {
     }
 
     private static void simulations() {
-        TakeLog log = Check.loaded("Tt010t020v90");
+        TakeLog log = forTurns();
         String before = Check.everything(log);
         for (int m = 1; m <= 80; m++) {
             for (long seed : new long[] {0, 1, -1, 12345 + m, Long.MIN_VALUE, Long.MAX_VALUE}) {
                 Check.due("simulate(" + seed + ", " + m + ")", log.simulate(seed, m), byHand(seed, m));
             }
         }
+        for (int seed = 2; seed < 400; seed++) {
+            Check.due("simulate(" + seed + ", 60)", log.simulate(seed, 60), byHand(seed, 60));
+        }
         Check.due("on a copy", Check.everything(log), before);
         Check.refuses(log, IllegalStateException.class, "a simulation is no action", log::undo);
     }
 
+    /** A log with short sound rolls, so that new ones make a difference, and with no state remembered. */
+    private static TakeLog forTurns() {
+        TakeLog log = Check.loaded("Tt010t020v90");
+        log.set(1, 150);
+        log.save(0);
+        log.restore(0);
+        return log;
+    }
+
     /** The turns of a simulation, done with the methods of the face. */
     private static int byHand(long seed, int m) {
-        TakeLog log = Check.loaded("Tt010t020v90");
+        TakeLog log = forTurns();
         long x = seed;
         for (int k = 0; k < m; k++) {
             x = x * 6364136223846793005L + 1442695040888963407L;
