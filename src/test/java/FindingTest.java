@@ -118,6 +118,10 @@ public final class FindingTest {
         Check.due("ninety more", shiftOf(-99, 10, 1), 90);
         Check.due("the farthest", shiftOf(99, 1, 1), -99);
         Check.due("the farthest", shiftOf(-99, 1, 1), 99);
+        for (int off = 10; off <= 99; off++) {
+            Check.due("just so far that one second is its own", shiftOf(off, 10, 1), 9 - off);
+            Check.due("just so far that one second is its own", shiftOf(-off, 10, 1), off - 9);
+        }
         // One is 15 s late, the other 15 s early: both shifts by 6 keep one.
         TakeLog two = new TakeLog();
         two.set(2, 60);

@@ -107,6 +107,8 @@ public final class ScriptTest {
         succeed(log, true, 90000);
         Check.due("a new roll", log.runScript(2, 20000_10001L), -1);
         log.set(0, 999);
+        succeed(log, true, 90939, 90909, 90000);
+        succeed(log, false, 90940, 90999, 91000);
         log.set(0, 100);
         log.shoot(40, true);
         log.set(0, 60);
