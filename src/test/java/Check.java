@@ -52,8 +52,12 @@ final class Check {
 
     /** All that the calls without side effects tell of the state and the text. */
     static String everything(TakeLog log) {
-        StringBuilder all = new StringBuilder();
-        all.append("error ").append(log.errorPosition()).append(" about");
+        return "error " + log.errorPosition() + " " + state(log);
+    }
+
+    /** All that the calls without side effects tell of the state. */
+    static String state(TakeLog log) {
+        StringBuilder all = new StringBuilder("about");
         for (int what = 0; what <= 16; what++) {
             all.append(' ').append(log.about(what));
         }
@@ -68,6 +72,20 @@ final class Check {
             }
         }
         return all.toString();
+    }
+
+    /** What is seen and what is hidden: the state, the remembered ones, those in the slots, the text; uses them up. */
+    static String drained(TakeLog log) {
+        StringBuilder all = new StringBuilder(everything(log));
+        for (int k = 0; k < 16; k++) {
+            all.append("\nundo ").append(outcome(log::undo)).append('\n').append(everything(log));
+        }
+        for (int slot = 0; slot < 2; slot++) {
+            int from = slot;
+            all.append("\nrestore ").append(outcome(() -> log.restore(from))).append('\n').append(everything(log));
+        }
+        all.append("\nload ").append(outcome(log::load)).append('\n').append(everything(log));
+        return all.append("\nlength ").append(log.clearText()).toString();
     }
 
     static String line(TakeLog log, int i) {

@@ -151,27 +151,7 @@ public final class ScriptTest {
     /** The turns of a simulation, done with the methods of the face. */
     private static int byHand(long seed, int m) {
         TakeLog log = forTurns();
-        long x = seed;
-        for (int k = 0; k < m; k++) {
-            x = x * 6364136223846793005L + 1442695040888963407L;
-            int r = (int) (x >>> 33);
-            Check.outcome(turn(log, r));
-        }
+        Turns.onto(log, seed, m);
         return 1000 * log.about(12) + log.about(16);
-    }
-
-    private static Check.Call turn(TakeLog log, int r) {
-        switch (r % 16) {
-            case 0: return () -> log.call(1 + r / 16 % 4, r / 64 % 3);
-            case 1: return log::right;
-            case 2: return () -> log.board(1 + r / 16 % 4, r / 64 % 3, 1 + r / 256 % 5);
-            case 3: return log::newCamera;
-            case 4: return log::newSound;
-            case 5: return () -> log.falseStart(r / 16 % 24, true);
-            case 6: return () -> log.circle(r / 16 % 24, true);
-            case 7: return () -> log.off(r / 16 % 199 - 99);
-            case 8: return () -> log.fix(r / 16 % 24);
-            default: return () -> log.shoot(1 + r / 32 % 120, r / 16 % 2 == 0);
-        }
     }
 }
