@@ -295,8 +295,9 @@ public final class TakeLog {
     public int bestShift() {
         int best = 0;
         int most = now.keptSounds(0);
+        int all = now.sounds();
         // -1, 1, -2, 2, ..: the one to be preferred comes first, so only more sounds make a better one.
-        for (int k = 2; k <= 2 * MOST_OFF + 1; k++) {
+        for (int k = 2; k <= 2 * MOST_OFF + 1 && most < all; k++) {
             int shift = k % 2 == 0 ? -(k / 2) : k / 2;
             int kept = now.keptSounds(shift);
             if (kept > most) {
@@ -766,20 +767,22 @@ public final class TakeLog {
             return place >= of(i, from) && place < of(i, from) + of(i, LENGTH);
         }
 
-        /** The overlap of the take i and the sound of the take j, with all stamps shifted. */
-        private int overlap(int i, int j, int shift) {
-            int stamp = of(j, STAMP) + shift;
-            int begin = Math.max(of(i, BEGAN), stamp);
-            int end = Math.min(of(i, BEGAN) + of(i, LENGTH), stamp + of(j, LENGTH));
-            return Math.max(0, end - begin);
+        /** The overlap of a take from begin to end and the sound of the take j, with all stamps shifted. */
+        private int overlap(int begin, int end, int j, int shift) {
+            int from = of(j, STAMP) + shift;
+            int to = from + of(j, LENGTH);
+            int seconds = (to < end ? to : end) - (from > begin ? from : begin);
+            return seconds > 0 ? seconds : 0;
         }
 
         /** The take whose sound the clocks give to a take, with all stamps shifted. */
         int soundFor(int i, int shift) {
+            int begin = of(i, BEGAN);
+            int end = begin + of(i, LENGTH);
             int best = NONE;
             int most = 0;
             for (int j = 0; j < takes(); j++) {
-                int seconds = hasSound(j) ? overlap(i, j, shift) : 0;
+                int seconds = hasSound(j) ? overlap(begin, end, j, shift) : 0;
                 if (seconds > most) {
                     most = seconds;
                     best = j;
@@ -788,11 +791,29 @@ public final class TakeLog {
             return best;
         }
 
+        /** Whether a stamp that is shifted so far still leaves a take something of its own sound. */
+        private boolean meetsOwn(int i, int shift) {
+            int off = of(i, STAMP) - of(i, BEGAN) + shift;
+            return Math.abs(off) < of(i, LENGTH);
+        }
+
+        /** How many takes have sound. */
+        int sounds() {
+            int count = 0;
+            for (int i = 0; i < takes(); i++) {
+                if (hasSound(i)) {
+                    count++;
+                }
+            }
+            return count;
+        }
+
         /** To how many takes with sound the clocks give their own, with all stamps shifted. */
         int keptSounds(int shift) {
             int count = 0;
             for (int i = 0; i < takes(); i++) {
-                if (hasSound(i) && soundFor(i, shift) == i) {
+                // Most shifts end at meetsOwn, which is cheaper than a look at all sounds.
+                if (hasSound(i) && meetsOwn(i, shift) && soundFor(i, shift) == i) {
                     count++;
                 }
             }

@@ -16,6 +16,7 @@ public final class FindEdgesTest {
         unlikeLengths();
         bestShifts();
         ownOfMost();
+        shiftsOfAModel();
         rollsToCome();
         rollsAtTheEnds();
         falseStarts();
@@ -310,7 +311,7 @@ public final class FindEdgesTest {
             Check.due("two, the nearer one below", late(off, -off - 1).bestShift(), 9 - off);
             Check.due("most, though it is farther", late(off, -off - 1, -off - 1).bestShift(), off - 8);
             Check.due("most, though it is farther", late(off + 1, off + 1, -off).bestShift(), 8 - off);
-            Check.due("two of three, by the ends of both ranges", late(off, off + 18).bestShift(), -off - 9);
+            Check.due("two, where both ranges end", late(off, off + 18).bestShift(), -off - 9);
         }
         TakeLog even = late(99, -99);
         Check.due("the ends, the lower one", even.bestShift(), -90);
@@ -338,9 +339,26 @@ public final class FindEdgesTest {
         other.undo();
         Check.due("so it is with 23", other.bestShift(), 1);
         TakeLog tied = withStamps(-20, 20);
-        Check.due("both as they are: the second ties, so the first gets its own", tied.synced(0), 0);
-        Check.due("and the second its own", tied.synced(1), 1);
-        Check.due("no shift", tied.bestShift(), 0);
+        Check.due("a tie that gives the first one its own", tied.synced(0), 0);
+        Check.due("the second has its own", tied.synced(1), 1);
+        Check.due("so no shift is better", tied.bestShift(), 0);
+    }
+
+    /** Sounds that meet their own takes, but others more: counted second by second, too. */
+    private static void shiftsOfAModel() {
+        Check.due("each has some of its own, but more of the other's", withStamps(30, 10).bestShift(), -20);
+        for (int a = -90; a <= 90; a += 9) {
+            for (int b = -50; b <= 130; b += 11) {
+                int[] stamps = {a, b, 80 + (a - b) / 4};
+                Model model = new Model();
+                model.set(2, 0);
+                for (int k = 0; k < stamps.length; k++) {
+                    model.off(stamps[k] - 40 * k);
+                    model.shoot(40, true);
+                }
+                Check.due("stamps " + a + " " + b + " " + stamps[2], withStamps(stamps).bestShift(), model.bestShift());
+            }
+        }
     }
 
     /** rolls: "if one is loaded ahead of each take for which less than so many seconds are left". */

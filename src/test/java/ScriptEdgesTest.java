@@ -17,7 +17,6 @@ public final class ScriptEdgesTest {
             everyTurn(day);
             twoTurns(day);
         }
-        fails();
         furtherUsedRolls();
         lastTakes();
         orderAndCopy();
@@ -105,25 +104,6 @@ public final class ScriptEdgesTest {
         for (long group : groups) {
             Check.due("the group " + group, log.runScript(1, group), due ? -1 : 0);
         }
-    }
-
-    /** The borders of the numbers in the groups, as the document writes them. */
-    private static void fails() {
-        TakeLog log = new TakeLog();
-        succeed(log, true, 10001, 11001, 10120, 11120);
-        succeed(log, false, 10000, 11000, 10121, 11121, 10999, 11999, 12001, 19120);
-        succeed(log, true, 20000, 20001);
-        succeed(log, false, 20002, 20009, 20010, 20011, 20100, 20101, 21000, 21001);
-        succeed(log, false, 30000, 30001, 60000, 60001, 80000, 39901, 69901, 89999);
-        succeed(log, true, 40100, 40125, 49900, 49925);
-        succeed(log, false, 40000, 40025, 40126, 49926, 40199);
-        succeed(log, true, 50000);
-        succeed(log, false, 50001, 50010, 50100, 51000, 59999);
-        succeed(log, true, 70000, 70001, 70099);
-        succeed(log, false, 70100, 71000, 79999);
-        succeed(log, true, 90000, 90001, 90299, 90300);
-        succeed(log, false, 90301, 90999, 91000, 99000);
-        succeed(log, false, 0, 1, 100, 1000, 9999);
     }
 
     /** "succeeds if at least sss seconds are left": rolls that are used further have nothing left. */

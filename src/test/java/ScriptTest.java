@@ -59,19 +59,19 @@ public final class ScriptTest {
     private static void groups() {
         TakeLog log = new TakeLog();
         succeed(log, true, 10001, 11001, 10120, 11120);
-        succeed(log, false, 10000, 11000, 10121, 11121, 12010, 19010, 1010, 10999);
+        succeed(log, false, 10000, 11000, 10121, 11121, 12001, 12010, 19010, 19120, 1010, 10999, 11999);
         succeed(log, true, 20000, 20001);
-        succeed(log, false, 20002, 20010, 20100, 21000, 20009, 21001, 29000);
+        succeed(log, false, 20002, 20009, 20010, 20011, 20100, 20101, 21000, 21001, 29000);
         succeed(log, true, 40100, 49900, 40125, 49925);
-        succeed(log, false, 40000, 40126, 40199, 40025);
+        succeed(log, false, 40000, 40126, 40199, 40025, 49926);
         succeed(log, true, 50000);
         succeed(log, false, 50001, 50010, 50100, 51000);
         succeed(log, true, 70000, 70099, 70001);
         succeed(log, false, 70100, 71000, 79000);
-        succeed(log, true, 90000, 90001, 90300);
+        succeed(log, true, 90000, 90001, 90299, 90300);
         succeed(log, false, 90301, 90999, 91000, 91001, 99000);
-        succeed(log, false, 0, 1, 9999, 12345 % 10000);
-        succeed(log, false, 30000, 30001, 60000, 60001, 80000);
+        succeed(log, false, 0, 1, 100, 1000, 2345, 9999);
+        succeed(log, false, 30000, 30001, 60000, 60001, 80000, 39901, 69901, 89999);
         Check.due("newCamera gives a whole roll", log.runScript(3, 10120_20000_90300L), -1);
         Check.due("newSound does not", log.runScript(3, 10120_20001_90181L), 2);
         Check.due("180 are left", log.runScript(3, 10120_20001_90180L), -1);
