@@ -1,7 +1,9 @@
+import java.lang.reflect.Field;
 import java.lang.reflect.Method;
 import java.lang.reflect.Modifier;
 import java.nio.file.Files;
 import java.nio.file.Path;
+import java.util.ArrayList;
 import java.util.HashSet;
 import java.util.List;
 import java.util.Set;
@@ -33,6 +35,7 @@ public final class RulesTest {
             }
         }
         names();
+        fields();
         Check.end("RulesTest");
     }
 
@@ -52,6 +55,25 @@ public final class RulesTest {
             for (Method m : inside.getDeclaredMethods()) {
                 hidden(face, m);
             }
+        }
+    }
+
+    /** Static fields are final constants; at most twelve classes, with at most twenty other fields each. */
+    private static void fields() {
+        List<Class<?>> all = new ArrayList<>(List.of(TakeLog.class.getDeclaredClasses()));
+        all.add(TakeLog.class);
+        Check.due("too many classes", all.size() > 12 ? 1 : 0, 0);
+        Set<Class<?>> constants = Set.of(int.class, long.class, boolean.class, char.class, String.class, int[].class,
+                long[].class, char[].class, byte[].class);
+        for (Class<?> one : all) {
+            int others = 0;
+            for (Field f : one.getDeclaredFields()) {
+                boolean isStatic = Modifier.isStatic(f.getModifiers());
+                boolean constant = Modifier.isFinal(f.getModifiers()) && constants.contains(f.getType());
+                Check.due(one.getName() + "." + f.getName(), isStatic && !constant ? 1 : 0, 0);
+                others += isStatic ? 0 : 1;
+            }
+            Check.due("too many fields of " + one.getName(), others > 20 ? 1 : 0, 0);
         }
     }
 
